@@ -19,7 +19,7 @@ public final class RuleStack {
     private static final int MOST_REPLIES = 8;
     private static final int MOST_RULES = 8;
     // In the order of the item keywords, the win last.
-    private static final int[] MOST_ITEMS = {6, 6, 6, 12, 8, 8, 1};
+    private static final int[] MOST_ITEMS = {MOST_TRACKS, MOST_POOLS, MOST_PHASES, MOST_ACTS, MOST_REPLIES, MOST_RULES, 1};
 
     private static final int FEWEST_PLAYERS = 2;
     private static final int MOST_PLAYERS = 4;
@@ -657,7 +657,6 @@ public final class RuleStack {
         final Code code;
         int at;
         int now;
-        boolean broken;
 
         Form(Tokens tokens, Code code) {
             this.tokens = tokens;
@@ -668,11 +667,10 @@ public final class RuleStack {
         int firstWrong() {
             at = 0;
             now = tokens.sortOf(at);
-            broken = false;
             code.length = 0;
-            for (int n = 0; n < MOST_TOKENS && !broken; n++) {
+            for (int n = 0; n < MOST_TOKENS && now != NO_TOKEN; n++) {
                 item(now);
-                if (now == TAPE_END && !broken) {
+                if (now == TAPE_END) {
                     return -1;
                 }
             }
@@ -681,17 +679,16 @@ public final class RuleStack {
 
         /** Goes behind a token of this sort; any other one breaks the form. */
         private void take(int sort) {
-            if (broken || now != sort) {
-                fail();
-            } else {
+            if (now == sort) {
                 at++;
                 now = tokens.sortOf(at);
+            } else {
+                fail();
             }
         }
 
-        // No grammar takes what is no token, so that a broken form is left without asking anywhere.
+        // No part of the grammar takes what is no token, so that from now on nothing is taken any more.
         private void fail() {
-            broken = true;
             now = NO_TOKEN;
         }
 
@@ -924,9 +921,9 @@ public final class RuleStack {
 
     /** What a program tells, numbered as the face numbers it. */
     private static final class Program {
-        static final int BODIES = 28;
-        static final int FIRST_REPLY = 12;
-        static final int FIRST_RULE = 20;
+        static final int FIRST_REPLY = MOST_ACTS;
+        static final int FIRST_RULE = MOST_ACTS + MOST_REPLIES;
+        static final int BODIES = MOST_ACTS + MOST_REPLIES + MOST_RULES;
 
         final int[] counts;
         final int[] wholes;
@@ -1007,7 +1004,6 @@ public final class RuleStack {
         /** Returns the first error, whose token is then the wrong one; 0 if there is none. */
         int look() {
             error = 0;
-            wrong = -1;
             int end = tokens.count - 1;
             for (int token = 0; token < end && error == 0; token++) {
                 lookAt(token, tokens.sortOf(token));
@@ -1192,7 +1188,7 @@ public final class RuleStack {
 
     /** What lies on the table: all that statements can read or change. */
     private static final class Table {
-        static final int FIRST_POOL = 24;
+        static final int FIRST_POOL = MOST_PLAYERS * MOST_TRACKS;
 
         final int[] values;
         final int[] rows;
@@ -1461,7 +1457,7 @@ public final class RuleStack {
         final Program program;
         final Table table;
         final Machine machine;
-        final int[] record;
+        final int[] written;
         int made;
         int outcome;
         int winner;
@@ -1473,7 +1469,7 @@ public final class RuleStack {
             this.program = program;
             this.table = table;
             this.machine = machine;
-            record = new int[MOST_MOVES * ROW];
+            written = new int[MOST_MOVES * ROW];
             outcome = NO_GAME;
         }
 
@@ -1524,7 +1520,7 @@ public final class RuleStack {
 
         int recorded(int index, int what) {
             int at = index * ROW + what;
-            return at >= 0 && at < record.length ? record[at] : 0;
+            return at >= 0 && at < written.length ? written[at] : 0;
         }
 
         /** Whether the act or reply could be done now. */
@@ -1540,8 +1536,8 @@ public final class RuleStack {
                     && holds(program.whenOf(Program.FIRST_REPLY + number), asked, target);
         }
 
-        private boolean holds(int when, int owner, int target) {
-            return when < 0 || machine.run(when, owner, target) != 0;
+        private boolean holds(int condition, int owner, int target) {
+            return condition < 0 || machine.run(condition, owner, target) != 0;
         }
 
         /** Makes a move that is allowed, with all that follows from it. */
@@ -1570,11 +1566,11 @@ public final class RuleStack {
 
         private void note(int sort, int number, int target, int maker) {
             int at = made * ROW;
-            if (at >= 0 && at + 3 < record.length) {
-                record[at] = sort;
-                record[at + 1] = number;
-                record[at + 2] = target;
-                record[at + 3] = maker;
+            if (at >= 0 && at + 3 < written.length) {
+                written[at] = sort;
+                written[at + 1] = number;
+                written[at + 2] = target;
+                written[at + 3] = maker;
                 made++;
             }
         }
