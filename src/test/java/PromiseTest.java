@@ -1,14 +1,5 @@
-import java.nio.charset.StandardCharsets;
-
-/**
- * Each promise of the document, with ordinary inputs, edges and wrong inputs. A script has one call a line,
- * "call arguments = answer", where an answer can be IAE, ISE or IOOBE for the exceptions; "text" writes the
- * rest of its line to the tape.
- */
-public final class PromiseTest {
-    private static int wrong = 0;
-    private static int checked = 0;
-
+/** Each promise of the document, with ordinary inputs, edges and wrong inputs, told as scripts. */
+public final class PromiseTest extends Scripts {
     public static void main(String[] args) {
         newObject();
         feed();
@@ -39,116 +30,7 @@ public final class PromiseTest {
         back();
         lastMove();
         digests();
-        System.out.println(checked + " answers checked");
-        if (wrong != 0) {
-            System.out.println(wrong + " answers are not as due");
-            System.exit(1);
-        }
-    }
-
-    // ---- how the tests are told
-
-    private static void due(String what, String got, String want) {
-        checked++;
-        if (!got.equals(want)) {
-            wrong++;
-            System.out.println(what + " answered " + got + ", due is " + want);
-        }
-    }
-
-    private static void write(RuleStack x, String text) {
-        byte[] bytes = text.getBytes(StandardCharsets.ISO_8859_1);
-        int before = x.count(6);
-        for (int i = 0; i < bytes.length; i += 20) {
-            int[] n = new int[5];
-            for (int k = 0; k < 20; k++) {
-                n[k / 4] = n[k / 4] << 8 | (i + k < bytes.length ? bytes[i + k] & 255 : 32);
-            }
-            x.feed(n[0], n[1], n[2], n[3], n[4]);
-        }
-        x.trim(before + bytes.length);
-    }
-
-    private static String answer(RuleStack x, String call) {
-        try {
-            return called(x, call.trim().split(" +"));
-        } catch (IllegalArgumentException e) {
-            return "IAE";
-        } catch (IllegalStateException e) {
-            return "ISE";
-        } catch (IndexOutOfBoundsException e) {
-            return "IOOBE";
-        }
-    }
-
-    private static String called(RuleStack x, String[] words) {
-        int[] n = new int[words.length];
-        for (int i = 1; i < words.length; i++) {
-            n[i] = (int) (words[i].matches("-?[0-9]+") ? Long.parseLong(words[i]) : 0);
-        }
-        switch (words[0]) {
-            case "feed": return "" + x.feed(n[1], n[2], n[3], n[4], n[5]);
-            case "trim": return "" + x.trim(n[1]);
-            case "compile": return "" + x.compile();
-            case "errorAt": return "" + x.errorAt();
-            case "count": return "" + x.count(n[1]);
-            case "begin": return "" + x.begin(n[1], Long.parseLong(words[2]));
-            case "act": return "" + x.act(n[1], n[2]);
-            case "reply": return "" + x.reply(n[1], n[2]);
-            case "pass": return "" + x.pass();
-            case "canAct": return "" + x.can(false, n[1], n[2]);
-            case "canReply": return "" + x.can(true, n[1], n[2]);
-            case "moves": return "" + x.moves();
-            case "state": return "" + x.state();
-            case "told": return "" + x.told(n[1]);
-            case "track": return "" + x.track(n[1], n[2]);
-            case "pool": return "" + x.pool(n[1]);
-            case "stack": return "" + x.stack(n[1], n[2]);
-            case "move": return "" + x.move(n[1], n[2]);
-            case "back": return "" + x.back(n[1]);
-            case "z": return "" + x.z();
-            case "mean": return "" + x.mean(n[1]);
-            case "digest": return "" + x.digest();
-            default: return "no call " + words[0];
-        }
-    }
-
-    /** A digest behind an exception that is not the one ahead tells that something changed. */
-    private static void script(String title, String lines) {
-        run(new RuleStack(), title, lines);
-    }
-
-    private static void run(RuleStack x, String title, String lines) {
-        for (String line : lines.split("\n")) {
-            String plain = line.trim();
-            if (plain.startsWith("text ")) {
-                write(x, x.count(6) == 0 ? plain.substring(5) : " " + plain.substring(5));
-            } else if (!plain.isEmpty()) {
-                int sign = plain.lastIndexOf(" = ");
-                String want = plain.substring(sign + 3).trim();
-                long before = x.digest();
-                due(title + ": " + plain, answer(x, plain.substring(0, sign)), want);
-                if (want.startsWith("I") && x.digest() != before) {
-                    due(title + ": " + plain, "changed something", "changes nothing");
-                }
-            }
-        }
-    }
-
-    /** The program has this error where the | stands, which is not part of it. */
-    private static void fault(int error, String marked) {
-        int position = marked.indexOf('|');
-        RuleStack x = new RuleStack();
-        write(x, marked.replace("|", ""));
-        due("compile of " + marked, x.compile() + " at " + x.errorAt(), error + " at " + position);
-        due("begin after " + marked, answer(x, "begin 2 0"), "ISE");
-    }
-
-    private static RuleStack good(String text) {
-        RuleStack x = new RuleStack();
-        write(x, text);
-        due("compile of " + text, x.compile() + " at " + x.errorAt(), "0 at -1");
-        return x;
+        finish();
     }
 
     // ---- promises 1 to 3
@@ -445,14 +327,6 @@ public final class PromiseTest {
         fault(7, "act x do end|");
         fault(7, "act x do end \n  |");
         good("phase p: x; act x do if die 2 = 1 then end end rule r at p do if die 6 then end end win 0;");
-    }
-
-    private static String items(String form, int n) {
-        StringBuilder all = new StringBuilder();
-        for (int i = 0; i < n; i++) {
-            all.append(form.replace("%c", "" + (char) ('a' + i)));
-        }
-        return all.toString();
     }
 
     private static void compileForgets() {
