@@ -272,6 +272,17 @@ public final class FaceBoundaryTest extends Scripts {
         run(overWithMoves(), "act 1 0 = IOOBE\nact 0 2 = IOOBE\nact 0 0 = ISE");
     }
 
+    static void promise08NumberedFrom0() {
+        sentence("Promise 8, act", "the act, numbered from 0");
+        RuleStack x = good("pool s 0 to 99 at 0; " + items("reply r%c do end ", 8) + items("act a%c do add s players; end ", 11)
+            + "phase p:al, aa; act al do set s 77; end win 0;");
+        run(x, "begin 2 0 = 0");
+        for (int act = 1; act <= 10; act++) {
+            run(x, "act " + act + " 0 = ISE");
+        }
+        run(x, "act 12 0 = IOOBE\nact 11 1 = 1\nstack 0 1 = 11\npass = 0\npool 0 = 77\nact 0 0 = 1\nstack 0 1 = 0\npass = 0\npool 0 = 79");
+    }
+
     static void promise09ReturnsTheHeight() {
         sentence("Promise 9, reply", "Lets the player who is asked reply. .. Returns the number of acts and replies on the stack.");
         RuleStack x = begun();
@@ -303,6 +314,21 @@ public final class FaceBoundaryTest extends Scripts {
             run(x, "reply 0 0 = " + height);
         }
         run(x, "reply 0 0 = ISE\nreply 1 0 = ISE\nreply 2 0 = IOOBE\nreply 0 3 = IOOBE");
+    }
+
+    static void promise09NumberedFrom0() {
+        sentence("Promise 9, reply", "the reply, numbered from 0");
+        StringBuilder replies = new StringBuilder();
+        for (int i = 0; i < 8; i++) {
+            replies.append("reply r" + i + " do set s s * 10 + " + (i + 1) + "; end act a" + i + " do end ");
+        }
+        RuleStack x = good("pool s 0 to 999 at 0; phase p:a7; " + replies + "win 0;");
+        for (int first = 0; first < 8; first++) {
+            int second = (first + 3) % 8;
+            run(x, "begin 2 0 = 0\nact 7 0 = 1\nreply " + second + " 0 = 2\nreply " + first + " 0 = 3\nstack 1 1 = " + second
+                + "\nstack 2 1 = " + first + "\npass = 0\npass = 0\npool 0 = " + (first * 10 + second + 11));
+        }
+        run(x, "reply 8 0 = IOOBE");
     }
 
     static void promise10Pass() {
@@ -376,7 +402,8 @@ public final class FaceBoundaryTest extends Scripts {
             run(x, "act 0 0 = 1\nmoves = " + (1 + players + players - 1) + "\nreply 0 0 = 2\nmoves = " + (2 * players));
             run(x, "begin " + players + " 0 = 0\npass = 0\nmoves = 1");
         }
-        RuleStack most = good(items("act a%c do end ", 12) + items("reply r%c do end ", 8) + "phase p:" + items("a%c,", 11) + "al; win 0;");
+        RuleStack most = good(items("act a%c do end ", 12) + items("reply r%c do end ", 8) + "phase p:" + items("a%c,", 11) + "al; "
+            + "rule k at p do end win 0;");
         run(most, "begin 4 0 = 0\nmoves = 49\nact 11 3 = 1\nmoves = 33");
         for (int height = 2; height <= 10; height++) {
             run(most, "moves = 33\nreply 7 3 = " + height);
@@ -404,6 +431,15 @@ public final class FaceBoundaryTest extends Scripts {
         run(overWithMoves(), "state = 1\nback 5 = 0\nstate = 0");
         RuleStack over = good("phase p:x; act x do end rule r at p do skip; end win 0;");
         run(over, "begin 2 0 = 2\nstate = 2");
+    }
+
+    static void promise14RoundPlayerPhase() {
+        sentence("Promise 14, told", "0 the round, 1 the player whose turn it is, 2 the phase");
+        RuleStack x = good("phase p:x; phase q:x; act x do end win 0;");
+        run(x, "begin 2 0 = 0");
+        for (int move = 0; move < 100; move++) {
+            run(x, "told 0 = " + (1 + move / 4) + "\ntold 1 = " + move / 2 % 2 + "\ntold 2 = " + move % 2 + "\npass = 0");
+        }
     }
 
     static void promise14WithoutAGame() {
@@ -503,6 +539,34 @@ public final class FaceBoundaryTest extends Scripts {
 
     // ---- promises 15 to 17
 
+    static void promise15ReturnsTheValue() {
+        sentence("Promise 15, track", "Returns its value.");
+        RuleStack x = good("track t 0 to 9 at 3; track u -9 to 9 at -4; phase p:x, y; act x do set their u 9; end act y do set my t 0; end win 0;");
+        run(x, """
+            begin 3 0 = 0
+            act 0 2 = 1
+            pass = 0
+            pass = 0
+            track 0 0 = 3
+            track 0 1 = -4
+            track 1 0 = 3
+            track 1 1 = -4
+            track 2 0 = 3
+            track 2 1 = 9
+            act 1 1 = 1
+            pass = 0
+            pass = 0
+            track 0 0 = 0
+            track 1 0 = 3
+            track 2 1 = 9
+            back 3 = 0
+            track 0 0 = 3
+            track 2 1 = 9
+            back 2 = 0
+            track 2 1 = -4
+            """);
+    }
+
     static void promise15Throws() {
         sentence("Promise 15, track", "Throws IndexOutOfBoundsException if there is no such player or track");
         RuleStack x = good(PROGRAM);
@@ -542,6 +606,30 @@ public final class FaceBoundaryTest extends Scripts {
         RuleStack most = good(items("pool t%c 0 to 9 at 5; ", 6) + "phase p:x; act x do end win 0;");
         run(most, "pool 5 = 5\npool 6 = IOOBE\nbegin 2 0 = 0\npool 5 = 5\npool 6 = IOOBE");
         run(most, "compile = 1\npool 5 = IOOBE\npool 0 = IOOBE");
+    }
+
+    static void promise17FromTheLowest() {
+        sentence("Promise 17, stack", "a place on the stack, from 0 for the lowest one");
+        RuleStack x = good("phase p:x, y; act x do end act y do end reply r do end reply s do end reply t do end win 0;");
+        run(x, "begin 4 0 = 0\nact 1 3 = 1");
+        int[][] rows = new int[10][];
+        rows[0] = new int[] {0, 1, 0, 3};
+        int owner = 0;
+        for (int place = 1; place < 10; place++) {
+            owner = (owner + 1) % 4;
+            if (place % 3 == 0) {
+                run(x, "pass = 0");
+                owner = (owner + 1) % 4;
+            }
+            rows[place] = new int[] {1, place % 3, owner, place * 3 % 4};
+            run(x, "reply " + place % 3 + " " + place * 3 % 4 + " = " + (place + 1));
+        }
+        for (int place = 0; place < 10; place++) {
+            for (int what = 0; what < 4; what++) {
+                run(x, "stack " + place + " " + what + " = " + rows[place][what]);
+            }
+        }
+        run(x, "stack 10 0 = IOOBE\nstack 9 4 = IOOBE");
     }
 
     static void promise17Throws() {
@@ -739,6 +827,20 @@ public final class FaceBoundaryTest extends Scripts {
         run(x, "digest = " + d + "\nbegin 2 0 = 0");
         d = 419;
         for (long n : new long[] {0, 1, 1, 1, 0, 0, 0, 2, 0, 0, 0, 1, 0, 0, -1, -1, 0, 0, 0, 0, 2}) {
+            d = d * 31 + n;
+        }
+        run(x, "digest = " + d);
+    }
+
+    static void promise22ValuesInTheirOrder() {
+        sentence("Promise 22, digest", "for each player the values of all tracks; the values of all pools (of a game)");
+        RuleStack x = good("track t -9 to 9 at -1; pool a 0 to 9 at 2; track u 0 to 99 at 30; pool b -50 to 50 at -40; pool c 0 to 500 at 500; "
+            + "phase p:x; act x do set my t 7; set my u 8; set their t -8; set their u 9; end win 0;");
+        run(x, "begin 3 0 = 0");
+        run(x, "digest = " + reckonedDigest(x) + "\npass = 0\nact 0 2 = 1\npass = 0\npass = 0");
+        long d = 419;
+        for (long n : new long[] {2, 3, 1, 1, 0, 0, 0, 3, 4, 0, 0, 1, 1, 0, -1, -1, 0, 0, 0, 0, -1, 30, 7, 8, -8, 9, 2, -40, 500,
+            2, -1, -1, 0, 0, 0, 2, 1, 2, -1, -1, 2, 2, -1, -1, 0}) {
             d = d * 31 + n;
         }
         run(x, "digest = " + d);

@@ -146,6 +146,9 @@ public final class PromiseTest extends Scripts {
         good("phase p: x; act x do end win - - not - 3 - -2;");
         good("phase p: x, x, x; act x do end win 0003 =1;");
         good("pool a1 0 to 1 at 0; phase p: x; act x do set a1 12and 3or a1; end win 1;");
+        // README.md's program.
+        good("track hp 0 to 20 at 10;\nphase main: hit;\nact hit do add their hp 0 - die 6; end\n"
+            + "reply block when their hp < 5 do cancel; end\nwin their hp = 0 and players = 2;\n");
         // Names can be those of other words' beginnings, and of any kind where no other item has it.
         good("pool alla 0 to 1 at 0; phase me1: di; act di do set alla 1; end win alla;");
     }

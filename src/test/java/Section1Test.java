@@ -44,6 +44,21 @@ public final class Section1Test extends Scripts {
             """);
     }
 
+    static void section1FilledByFeedAndTrim() {
+        sentence("Section 1", "which feed and trim fill");
+        // "win 1;win 1;wi.." cut behind each of its bytes.
+        int[] states = {1, 1, 1, 1, 1, 1, 7, 1, 1, 1, 1, 1, 4, 1};
+        int[] places = {0, 0, 0, 3, 4, 5, 6, 6, 6, 9, 10, 11, 6, 12};
+        for (int kept = 0; kept < states.length; kept++) {
+            script("the first " + kept + " bytes", """
+                feed 2003398176 825980777 1847603515 2003398176 825980777 = 20
+                trim %d = %d
+                compile = %d
+                errorAt = %d
+                """.formatted(kept, kept, states[kept], places[kept]));
+        }
+    }
+
     static void section1TapeEmptyBehindCompile() {
         sentence("Section 1", "compile reads it, and it is empty behind it");
         script("", """
@@ -353,6 +368,71 @@ public final class Section1Test extends Scripts {
         }
     }
 
+    static void section1ItemsOfTheirForm() {
+        sentence("Section 1", "item = ( \"track\" | \"pool\" ) name whole \"to\" whole \"at\" whole \";\"");
+        for (String kind : new String[] {"track", "pool"}) {
+            good(kind + " a 0 to 1 at 0;" + REST + "win 1;");
+            fault(1, kind + " |0 to 1 at 0;");
+            fault(1, kind + " a |a 0 to 1 at 0;");
+            fault(1, kind + " a 0 |at 1 to 0;");
+            fault(1, kind + " a 0 to 1 |to 0;");
+            fault(1, kind + " a 0 to 1 at 0 |0;");
+            fault(1, kind + " a 0 to 1 at 0 |end");
+            fault(1, kind + " a|: 0 to 1 at 0;");
+        }
+        fault(1, "track a 0 to 1 |;");
+        fault(1, "reply |1 do end");
+        fault(1, "rule r at |1 do end");
+        fault(1, "win 1 |end");
+    }
+
+    static void section1NoneOrMoreOperators() {
+        sentence("Section 1", "expression = both { \"or\" both } both = relation { \"and\" relation }");
+        for (String one : new String[] {"or", "and"}) {
+            good(REST + "win 1;");
+            good(REST + "win 1 " + one + " 0;");
+            good(REST + "win 1" + (" " + one + " 0").repeat(100) + ";");
+            fault(1, "win |" + one + " 1;");
+            fault(1, "win 1 " + one + "|;");
+            fault(1, "win 1 " + one + " |" + one + " 1;");
+        }
+        yields("1 or 0 and 0 or 0", 1);
+        yields("(1 or 0) and 0 or 0", 0);
+        yields("0 and 0 or 1", 1);
+        yields("0 and (0 or 1)", 0);
+    }
+
+    static void section1NoneOrMoreSums() {
+        sentence("Section 1", "sum = product { ( \"+\" | \"-\" ) product } product = factor { ( \"*\" | \"/\" | \"%\" ) factor }");
+        for (String one : new String[] {"+", "-", "*", "/", "%"}) {
+            good(REST + "win 7 " + one + " 2;");
+            good(REST + "win 7" + (one + " 2").repeat(100) + ";");
+            fault(1, "win 1 " + one + "|;");
+            fault(1, "win 1 " + one + " |* 1;");
+            fault(1, "win 1 " + one + " |or 1;");
+            if (!one.equals("-")) {
+                fault(1, "win |" + one + " 1;");
+                fault(1, "win 1 + |" + one + " 1;");
+            }
+        }
+        yields("1" + " + 1".repeat(200), 201);
+        yields("1" + " - 1".repeat(200), -199);
+        yields("0" + " - 2 * 3".repeat(100), -600);
+    }
+
+    static void section1Places() {
+        sentence("Section 1", "place = \"my\" name | \"their\" name | name");
+        String head = "track t 0 to 9 at 0; pool u 0 to 9 at 0;" + REST;
+        good(head + "win my t + their t + u;");
+        fault(1, head + "win my|;");
+        fault(1, head + "win their|;");
+        fault(1, head + "win my |my t;");
+        fault(1, head + "win my |(t);");
+        fault(1, head + "win u |t;");
+        fault(1, head + "win my t |their t;");
+        fault(1, head + "act y do set |(u) 1; end");
+    }
+
     static void section1Factors() {
         sentence("Section 1", "factor = number | place | \"round\" | \"depth\" | \"me\" | \"them\" | \"players\" | "
             + "\"(\" expression \")\" | ( \"-\" | \"not\" | \"die\" ) factor");
@@ -533,6 +613,36 @@ public final class Section1Test extends Scripts {
         good(odd + "skip;".repeat(218) + " end");
         fault(1, odd + "skip;".repeat(219) + "|end");
         fault(1, odd + "skip;".repeat(219) + "|");
+    }
+
+    static void section1All450TokensAreDone() {
+        sentence("Section 1", "A program has at most 450 tokens.");
+        // 19 tokens ahead of the statements, four each, two for the skip, and the end.
+        String head = "pool a 0 to 999 at 0;phase p:x;win 0;act x do ";
+        RuleStack x = good(head + "add a 1;".repeat(106) + "skip;add a 500;end");
+        run(x, "begin 2 0 = 0\nact 0 0 = 1\npass = 0\npool 0 = 606\ntold 1 = 1");
+        fault(1, head + "add a 1;".repeat(106) + "skip;add a 500;skip|;end");
+        RuleStack y = good(head + "add a 1" + "+1".repeat(213) + ";end");
+        run(y, "begin 2 0 = 0\nact 0 0 = 1\npass = 0\npool 0 = 214");
+        // All that waits at the greatest depth: five operands at each.
+        for (int innermost = 0; innermost <= 1; innermost++) {
+            RuleStack deep = good("pool a 0 to 9 at 5;phase p:x;win 0;act x do set a " + "0 or 1 and 1 = 0 + 1 * (".repeat(8)
+                + "0 or 1 and 1 = 0 + 1 * " + innermost + ")".repeat(8) + "; end");
+            run(deep, "begin 2 0 = 0\nact 0 0 = 1\npass = 0\npool 0 = " + innermost);
+        }
+    }
+
+    static void section1DeepestLoopsAreDone() {
+        sentence("Section 1", "Nesting. It is 1 greater within an if or an all; it may be at most 4.");
+        // The dearest act: of four players, 256 times 50 statements with a die of a die of a die, of a die.
+        String statement = "set a die die die die 1;";
+        RuleStack x = good("pool a 0 to 9 at 0;phase p:x;win 0;act x do all all all all " + statement.repeat(50) + "end end end end end");
+        run(x, "begin 4 5 = 0\nact 0 0 = 1\npass = 0\npass = 0\npass = 0\npool 0 = 1");
+        long z = 5;
+        for (int i = 0; i < 256 * 50 * 4; i++) {
+            z = z * 6364136223846793005L + 1442695040888963407L;
+        }
+        run(x, "z = " + z);
     }
 
     // ---- errors of form
@@ -902,6 +1012,18 @@ public final class Section1Test extends Scripts {
                 back 0 = ISE
                 """.formatted(one, one));
             run(x, "begin 2 0 = " + (error == 0 ? "0" : "ISE"));
+        }
+    }
+
+    static void promise4GreatProgramsOneBehindAnother() {
+        sentence("Promise 4, compile", "Compiles the tape as a program.");
+        RuleStack x = new RuleStack();
+        for (int last = 1; last <= 4; last++) {
+            String error = "act y do " + "skip;".repeat(218) + "end end";
+            due("compile of a wrong program", compiled(x, error), "1 at " + (error.length() - 3));
+            String text = "pool a 0 to 999 at 0;phase p:x;win 0;act x do " + "add a 1;".repeat(106) + "add a " + last + "00;end";
+            due("compile of a great program", compiled(x, text), "0 at -1");
+            run(x, "begin 2 0 = 0\nact 0 0 = 1\npass = 0\npool 0 = " + (106 + last * 100));
         }
     }
 

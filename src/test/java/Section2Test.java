@@ -187,6 +187,39 @@ public final class Section2Test extends Scripts {
             """);
     }
 
+    static void section2AValueForEachPlayerAndPool() {
+        sentence("Section 2", "Each player has a value for each track, the table one for each pool");
+        // Six tracks of four players and six pools: what is set in one of them leaves the others.
+        for (int track = 0; track < 6; track++) {
+            RuleStack x = good(items("track t%c 0 to 99 at 50; ", 6) + items("pool u%c 0 to 99 at 40; ", 6)
+                + "phase p:x, y; act x do set their t" + (char) ('a' + track) + " 7; end act y do set u" + (char) ('a' + track) + " 8; end win 0;");
+            run(x, "begin 4 0 = 0\nact 0 " + track % 4 + " = 1\npass = 0\npass = 0\npass = 0");
+            for (int player = 0; player < 4; player++) {
+                for (int other = 0; other < 6; other++) {
+                    run(x, "track " + player + " " + other + " = " + (player == track % 4 && other == track ? 7 : 50));
+                }
+            }
+            run(x, "act 1 0 = 1\npass = 0\npass = 0\npass = 0");
+            for (int pool = 0; pool < 6; pool++) {
+                run(x, "pool " + pool + " = " + (pool == track ? 8 : 40) + "\ntrack 3 " + pool + " = " + (track == 3 && pool == 3 ? 7 : 50));
+            }
+        }
+    }
+
+    static void section2MyAndTheir() {
+        sentence("Section 2", "my x is the owner's track x, their x the target's");
+        RuleStack x = good("track t 0 to 99 at 0; pool a 0 to 999 at 0; phase p:x, y; act x do set my t me + 1; set their t 10 * (them + 1); end "
+            + "act y do set a my t * 100 + their t; end win 0;");
+        run(x, "begin 4 0 = 0");
+        for (int owner = 0; owner < 4; owner++) {
+            int target = (owner + 2) % 4;
+            run(x, "act 0 " + target + " = 1\npass = 0\npass = 0\npass = 0\ntrack " + owner + " 0 = " + (owner + 1) + "\ntrack " + target
+                + " 0 = " + 10 * (target + 1));
+            run(x, "act 1 " + target + " = 1\npass = 0\npass = 0\npass = 0\npool 0 = " + ((owner + 1) * 100 + 10 * (target + 1)));
+            run(x, "act 1 " + owner + " = 1\npass = 0\npass = 0\npass = 0\npool 0 = " + (owner + 1) * 101 + "\npass = 0");
+        }
+    }
+
     /** What is left of a value that is set or added in a place of -3 to 5, where 1 is at first. */
     private static void kept(String told, int want) {
         String[] places = {"my t ", "their t ", "a "};
@@ -405,6 +438,43 @@ public final class Section2Test extends Scripts {
         kept("add -1", 0);
         kept("set 2; add 2", 4);
         kept("set 2; set 3", 3);
+    }
+
+    static void section2If() {
+        sentence("Section 2", "if as usual.");
+        String text = "pool a 0 to 999 at 0; pool c -9 to 9 at 0; phase p:x, y, z; act x do set c them; "
+            + "if c then set a a * 10 + 1; end if c then set a a * 10 + 2; else set a a * 10 + 3; end if c then else set a a * 10 + 4; end end "
+            + "act y do if them = 0 then set a 1; if me then set a 2; else set a 3; end else set a 4; if players > 2 then set a 5; end end end "
+            + "act z do if -1 then set a 7; else set a 8; end end win 0;";
+        RuleStack x = good(text);
+        run(x, """
+            begin 2 0 = 0
+            act 0 0 = 1
+            pass = 0
+            pool 0 = 34
+            begin 2 0 = 0
+            act 0 1 = 1
+            pass = 0
+            pool 0 = 12
+            act 1 0 = 1
+            pass = 0
+            pool 0 = 3
+            act 1 1 = 1
+            pass = 0
+            pool 0 = 4
+            pass = 0
+            act 1 0 = 1
+            pass = 0
+            pool 0 = 2
+            act 2 0 = 1
+            pass = 0
+            pool 0 = 7
+            begin 3 0 = 0
+            act 1 1 = 1
+            pass = 0
+            pass = 0
+            pool 0 = 5
+            """);
     }
 
     static void section2All() {

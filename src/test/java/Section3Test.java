@@ -227,6 +227,22 @@ public final class Section3Test extends Scripts {
             """);
     }
 
+    static void section3WhoIsAskedBehindAReplyAndAPass() {
+        sentence("Section 3", "it comes onto the stack, and the player behind is asked. Or who is asked passes: then the player behind is asked");
+        for (int players = 3; players <= 4; players++) {
+            RuleStack x = good("phase p:x; act x do end reply r do end win 0;");
+            run(x, "begin " + players + " 0 = 0\nact 0 0 = 1");
+            int asked = 1;
+            for (int height = 2; height <= 10; height++) {
+                run(x, "told 3 = " + asked + "\npass = 0");
+                asked = (asked + 1) % players;
+                run(x, "told 3 = " + asked + "\nreply 0 0 = " + height + "\nstack " + (height - 1) + " 2 = " + asked);
+                asked = (asked + 1) % players;
+            }
+            run(x, "told 3 = " + asked);
+        }
+    }
+
     static void section3PassesOfAllButTheOwner() {
         sentence("Section 3", "if all but the owner of the uppermost act or reply have passed one after the other since it came there "
             + "or became the uppermost one, it is taken from the stack, and done");
