@@ -202,6 +202,9 @@ public final class FaceBoundaryTest extends Scripts {
             + "begin 3 0 = 1\nstate = 1\nbegin 2 0 = 0\nstate = 0\ntold 4 = -1");
         script("over at the beginning", "text phase p:x; act x do end rule r at p when players = 3 do skip; end win 0;\ncompile = 0\n"
             + "begin 2 0 = 0\nbegin 3 0 = 2\nstate = 2\nbegin 4 0 = 0");
+        RuleStack asked = begun();
+        run(asked, "pass = 0\nact 0 0 = 1\npass = 0\ntold 7 = 1\ntold 3 = 2\nbegin 2 -1 = 0\ntold 7 = 0\ntold 3 = -1");
+        run(asked, "digest = " + answer(fresh, "digest") + "\nact 0 0 = 1\ntold 7 = 0\ntold 3 = 1\nbegin 2 -1 = 0\ntold 3 = -1\nback 0 = 0\ntold 7 = 0");
         RuleStack over = overWithMoves();
         run(over, "begin 2 3 = 0\nstate = 0\ncount 8 = 0\ncount 9 = 0\ntold 4 = -1\npool 0 = 0");
     }

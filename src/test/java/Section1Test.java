@@ -326,6 +326,48 @@ public final class Section1Test extends Scripts {
         fault(1, "win 1 |do end");
     }
 
+    static void section1BodiesOfAllItems() {
+        sentence("Section 1", "( \"act\" | \"reply\" ) name body | \"rule\" name \"at\" name body");
+        // As many acts, replies and rules as there can be, each with a when and with statements of its own.
+        StringBuilder text = new StringBuilder();
+        for (int i = 0; i < 12; i++) {
+            text.append("act a" + i + " when them = " + i % 2 + " do set s " + (100 + i) + ";end ");
+        }
+        for (int i = 0; i < 8; i++) {
+            text.append("reply r" + i + " when them = " + i % 2 + " do set s " + (200 + i) + ";end ");
+        }
+        String program = "pool s 0 to 999 at 0;phase p:a0,a1,a2,a3,a4,a5,a6,a7,a8,a9,a10,a11;" + text;
+        RuleStack x = good(program + "win 0;");
+        for (int i = 0; i < 12; i++) {
+            run(x, "begin 2 0 = 0\nact " + i + " " + (1 - i % 2) + " = ISE\nact " + i + " " + i % 2 + " = 1\npass = 0\npool 0 = " + (100 + i));
+        }
+        RuleStack y = good(program + "win 0;");
+        for (int i = 0; i < 8; i++) {
+            run(y, "begin 2 0 = 0\nact 0 0 = 1\nreply " + i + " " + (1 - i % 2) + " = ISE\nreply " + i + " " + i % 2 + " = 2\npass = 0\npool 0 = "
+                + (200 + i));
+        }
+    }
+
+    static void section1RulesBesideActs() {
+        sentence("Section 1", "\"rule\" name \"at\" name body");
+        StringBuilder text = new StringBuilder("pool s 0 to 99 at 0;pool o 0 to 999 at 0;phase p:a0,a4,a11;win 0;");
+        for (int i = 0; i < 12; i++) {
+            text.append("act a" + i + " do set o " + (100 + i) + ";end ");
+        }
+        for (int i = 0; i < 8; i++) {
+            text.append("rule u" + i + " at p when s=" + (i + i / 4) + " do add s 1;end ");
+        }
+        for (int i = 0; i < 8; i++) {
+            text.append("reply r" + i + " do set o " + (200 + i) + ";end ");
+        }
+        // The fifth rule finds no 5 there at the first time: the four ahead of it made 4.
+        RuleStack x = good(text.toString());
+        run(x, "begin 2 0 = 0\npool 0 = 4\npool 1 = 0");
+        for (int act : new int[] {0, 4, 11}) {
+            run(x, "act " + act + " 0 = 1\nreply 7 0 = 2\npass = 0\npool 1 = 207\npass = 0\npool 1 = " + (100 + act) + "\npool 0 = 4");
+        }
+    }
+
     static void section1Statements() {
         sentence("Section 1", "statement = ( \"set\" | \"add\" ) place expression \";\" | \"if\" expression \"then\" { statement } "
             + "[ \"else\" { statement } ] \"end\" | \"all\" { statement } \"end\" | \"cancel\" \";\" | \"again\" \";\" | \"skip\" \";\"");
@@ -1025,6 +1067,32 @@ public final class Section1Test extends Scripts {
             due("compile of a great program", compiled(x, text), "0 at -1");
             run(x, "begin 2 0 = 0\nact 0 0 = 1\npass = 0\npool 0 = " + (106 + last * 100));
         }
+    }
+
+    static void promise4NothingStaysOfTheProgramAhead() {
+        sentence("Promise 4, compile", "The program and the game that were there are gone in any case.");
+        // The new program has fewer acts in its phase, no whens where there were some, and rules at another phase.
+        RuleStack x = good("phase p:x, y, z; phase q:y; act x when 0 do end act y when 0 do end act z do end reply r when 0 do end "
+            + "rule s at p when 0 do skip; end rule t at q do end win 1;");
+        run(x, "begin 2 0 = 0\nmoves = 3\npass = 1");
+        write(x, "pool a 0 to 9 at 0; phase p:y; phase q:x; act x do end act y do end act z do end reply r do end rule s at q do add a 1; end win 0;");
+        run(x, """
+            compile = 0
+            begin 2 0 = 0
+            pool 0 = 0
+            canAct 0 0 = false
+            canAct 1 0 = true
+            canAct 2 0 = false
+            moves = 3
+            act 1 0 = 1
+            canReply 0 0 = true
+            pass = 0
+            pass = 0
+            pool 0 = 1
+            canAct 0 0 = true
+            canAct 1 0 = false
+            canAct 2 0 = false
+            """);
     }
 
     static void promise5LatestError() {

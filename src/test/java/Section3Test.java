@@ -190,6 +190,19 @@ public final class Section3Test extends Scripts {
             """);
     }
 
+    static void section3WhenOfTheFirstItem() {
+        sentence("Section 3", "and it has no when, or this is true");
+        // The act, the reply and the rule that stand ahead of all others have a when like any other.
+        RuleStack x = good("act x when them do end phase p:x, y; act y do end win 0;");
+        run(x, "begin 2 0 = 0\nact 0 0 = ISE\ncanAct 0 0 = false\nmoves = 4\nact 0 1 = 1");
+        RuleStack y = good("reply r when them do end phase p:x; act x do end win 0;");
+        run(y, "begin 2 0 = 0\nact 0 0 = 1\nreply 0 0 = ISE\nmoves = 2\nreply 0 1 = 2");
+        RuleStack z = good("rule r at p when me do end phase p:x; act x do end win 1;");
+        run(z, "begin 2 0 = 0\npass = 1");
+        RuleStack w = good("win me; phase p:x; act x do end");
+        run(w, "begin 2 0 = 0\nact 0 0 = 1\npass = 1\ntold 4 = 1");
+    }
+
     static void section3ThePlayerBehindIsAsked() {
         sentence("Section 3", "It comes onto the stack; then the player behind is asked.");
         for (int players = 2; players <= 4; players++) {
